@@ -1061,16 +1061,9 @@ public final class PromiseTests {
             due("15 deleted", thread(x, 0), "0 0 " + (MIN + path) + " 0 0");
             due("15 is 0", x.resource(path), 0);
         }
-        // three bundles write -1 to all paths, then count
-        TenantHost x = new TenantHost(16);
-        x.grant(0, 15, 509);
-        for (int from = 0; from < 84; from += 28) {
-            StringBuilder text = new StringBuilder("FUNC 1");
-            for (int p = from; p < from + 28; p++) text.append("; PUSH -1; GUARD 1 ").append(p);
-            due("15 writes", deploy(x, 0, text + "; PUSH 0; RETURN"), 0);
-            ends(x, 0);
-        }
+        TenantHost x = null;
         for (int path = 0; path < 84; path++) {
+            if (path % 28 == 0) x = allWritten();
             due("15 counts", deploy(x, 0, "FUNC 1; GUARD 3 " + path + "; RETURN"), 0);
             due("15 count of " + path, ends(x, 0), "0 " + (path < 4 ? 20 : path < 20 ? 4 : 0));
         }
@@ -1082,6 +1075,19 @@ public final class PromiseTests {
             due("15 behind " + name, ends(x, 0), "0 " + want);
         }
         for (int bad : new int[] {-1, 84, MIN, MAX}) due("15 no path " + bad, x.resource(bad), 0);
+    }
+
+    /** A host whose paths all have the resource -1: a bundle has room for writing a third of them. */
+    private static TenantHost allWritten() {
+        TenantHost x = new TenantHost(16);
+        x.grant(0, 15, 509);
+        for (int from = 0; from < 84; from += 28) {
+            StringBuilder text = new StringBuilder("FUNC 1");
+            for (int p = from; p < from + 28; p++) text.append("; PUSH -1; GUARD 1 ").append(p);
+            due("15 writes", deploy(x, 0, text + "; PUSH 0; RETURN"), 0);
+            due("15 all written", ends(x, 0), "0 0");
+        }
+        return x;
     }
 
     private static void promise16Audit() {
