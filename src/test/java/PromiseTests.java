@@ -240,6 +240,36 @@ public final class PromiseTests {
         due("3 none", x.withdraw(0, 0), false);
         due("3 a new one is number 0", x.grant(0, 1, 506), 0);
         due("3 given again", ends(x, 0), "0 0");
+        // whole rows: what moves up are actions and patterns, and other tenants keep theirs
+        String reads = "FUNC 1; GUARD 0 0; RETURN; FUNC 1; GUARD 3 1; RETURN";
+        x = host(4, reads, reads, reads, reads);
+        for (int t = 0; t < 4; t++) {
+            for (int k = 0; k < 4; k++) x.grant(t, 2, 504);
+            x.grant(t, 1, 504);
+            x.grant(t, 8, 505);
+        }
+        due("3 of a full row", x.withdraw(1, 0), true);
+        due("3 of the last row", x.withdraw(3, 0), true);
+        for (int t = 0; t < 4; t++) {
+            due("3 left of tenant " + t, x.tenant(t, 6), t % 2 == 1 ? 5 : 6);
+            for (int f = 0; f < 2; f++) {
+                int k = x.start(t, f, 0);
+                x.run(9);
+                due("3 function " + f + " of tenant " + t, thread(x, k), "0 0 0 0 0");
+            }
+        }
+        due("3 the last but one", x.withdraw(1, 3), true);
+        x.start(1, 0, 0);
+        x.start(1, 1, 0);
+        x.run(20);
+        due("3 read is gone", x.thread(0, 1), 1);
+        due("3 count has moved up", x.thread(1, 1), 0);
+        due("3 the last but one of the last row", x.withdraw(3, 3), true);
+        x.start(3, 0, 0);
+        x.start(3, 1, 0);
+        x.run(20);
+        due("3 read is gone there", x.thread(0, 1), 1);
+        due("3 count has moved up there", x.thread(1, 1), 0);
     }
 
     private static void promise4Code() {
@@ -375,6 +405,18 @@ public final class PromiseTests {
             due("6 op " + op, x.deploy(2), 1);
             due("6 its place", x.place(), 3);
         }
+        add(x, "FUNC 1; PUSH 1; DROP; PUSH 1; DROP; PUSH 1; RETURN");
+        due("6 a longer one before", x.deploy(2), 0);
+        due("6 behind the end", deploy(x, 2, "FUNC 1; JUMP 2"), 1);
+        due("6 place of behind the end", x.place(), 1);
+        due("6 a call of what was there before", deploy(x, 2, "FUNC 1; PUSH 1; CALL 1; RETURN"), 1);
+        due("6 place of that call", x.place(), 2);
+        String full = pushes(0);
+        for (int i = 1; i < 63; i++) full += "; YIELD";
+        form(full + "; JUMP 64", 63);
+        stack(full + "; YIELD", 63);
+        stack(full + "; PUSH 1", 63);
+        sound(full + "; JUMP 63");
         due("6 empty", x.deploy(2), 1);
         due("6 place of an empty one", x.place(), 0);
         due("6 asked twice", x.place(), 0);
@@ -443,6 +485,9 @@ public final class PromiseTests {
         stack("FUNC 1; YIELD; PUSH 1; PUSH 1; ZERO 2; RETURN", 2);
         stack("FUNC 1; JUMP 4; YIELD; RETURN; PUSH 1; PUSH 1; ZERO 2; DROP; JUMP 2", 2);
         stack("FUNC 1; JUMP 5; PUSH 1; RETURN; YIELD; DROP; JUMP 2", 5);
+        // heights that come back from jump to jump, and one that only a loop's later heights lead to
+        stack("FUNC 1; JUMP 7; DROP; JUMP 3; JUMP 2; JUMP 4; JUMP 5; JUMP 6", 2);
+        stack("FUNC 1; JUMP 4; DROP; JUMP 3; PUSH 1; LOAD 0; ZERO 4; ADD; ADD; JUMP 2", 2);
         // both ways of a ZERO go on with the same height
         sound("FUNC 1; LOAD 0; ZERO 5; PUSH 1; RETURN; PUSH 2; RETURN");
         stack("FUNC 1; LOAD 0; ZERO 5; PUSH 1; RETURN; RETURN", 5);
@@ -689,6 +734,7 @@ public final class PromiseTests {
         value("PUSH " + MIN, MIN);
         value("PUSH 3; DUP; MUL", 9);
         value("PUSH 3; PUSH 4; DROP", 3);
+        value("PUSH 1; PUSH 3; PUSH 4; DROP; ADD", 4);
         value("PUSH 3; PUSH 4; SWAP", 3);
         value("PUSH 3; PUSH 4; SWAP; DROP", 4);
         value("PUSH 3; PUSH 4; ADD", 7);
@@ -719,6 +765,11 @@ public final class PromiseTests {
         x.start(0, 0, 4);
         due("11 its steps", x.run(200), 21);
         due("11 a tick for each", x.tenant(0, 0), 21);
+        value("PUSH 9; LOAD 0; SEND 0; DROP", 0);
+        due("11 locals are new in each frame", endsAlone("FUNC 1; PUSH 0; CALL 1; PUSH 0; CALL 1; ADD; RETURN;"
+            + " FUNC 4; LOAD 1; LOAD 2; LOAD 3; ADD; ADD; PUSH 5; STORE 1; PUSH 6; STORE 2; PUSH 7; STORE 3; RETURN", 0), "0 0");
+        due("11 values are new in each frame", endsAlone("FUNC 1; PUSH 0; CALL 1; CALL 1; RETURN;"
+            + " FUNC 1; PUSH 1; PUSH 2; PUSH 3; PUSH 4; PUSH 5; PUSH 6; LOAD 0; PUSH 8; ADD; RETURN", 0), "0 16");
         String fact = "FUNC 1; LOAD 0; ZERO 9; LOAD 0; PUSH 1; SUB; CALL 0; LOAD 0; JUMP 11; PUSH 1; RETURN; MUL; RETURN";
         due("11 five frames deep", endsAlone(fact, 5), "0 120");
         due("11 too deep", endsAlone(fact, 6), "6 0");
@@ -749,6 +800,9 @@ public final class PromiseTests {
         x.capability(0, 0, 1, 0);
         x.grant(0, 15, 509);
         due("11 ACCESS", ends(x, 0), "0 150");
+        x = host(16, "FUNC 1; PUSH 9; LOAD 0; SEND 0; DROP; RETURN", "FUNC 1; LOAD 0; THROW");
+        x.capability(0, 0, 1, 0);
+        due("11 the result with an exception", ends(x, 7), "0 0");
         // two SENDs: only the newest one gets the exception
         x = host(16, sends, "FUNC 1; LOAD 0; SEND 0; ADD; RETURN", "FUNC 1; LOAD 0; THROW");
         x.capability(0, 0, 1, 0);
