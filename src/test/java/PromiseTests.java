@@ -1,18 +1,5 @@
-import java.util.Arrays;
-import java.util.List;
-
 /** For each promise of the document, what it says of ordinary inputs, of the edges and of wrong inputs. */
-public final class PromiseTests {
-    private static final List<String> OPS = Arrays.asList("FUNC", "PUSH", "DUP", "DROP", "SWAP", "ADD",
-        "SUB", "MUL", "LESS", "SAME", "LOAD", "STORE", "JUMP", "ZERO", "CALL", "PRIV", "SEND", "SPAWN",
-        "GUARD", "ALLOC", "FREE", "RETURN", "THROW", "YIELD");
-    private static final String LOOP = "FUNC 1; JUMP 1";
-    private static final String ECHO = "FUNC 1; LOAD 0; RETURN";
-    private static final int MIN = Integer.MIN_VALUE, MAX = Integer.MAX_VALUE;
-
-    private static int wrong = 0;
-    private static int checks = 0;
-
+public final class PromiseTests extends HostTest {
     public static void main(String[] args) {
         promise1NewObject();
         promise2Grant();
@@ -40,68 +27,7 @@ public final class PromiseTests {
         promise15Resource();
         promise16Audit();
         promise17Order();
-        System.out.println("PromiseTests: " + checks + " checks, " + wrong + " wrong");
-        if (wrong != 0) System.exit(1);
-    }
-
-    private static void due(String what, Object got, Object want) {
-        checks++;
-        if (!got.equals(want)) {
-            wrong++;
-            System.out.println(what + ": answered " + got + ", due is " + want);
-        }
-    }
-
-    /** Adds the instructions of a text such as "FUNC 1; LOAD 0; RETURN" to the pending bundle. */
-    private static void add(TenantHost x, String text) {
-        for (String line : text.split(";")) {
-            String[] word = line.trim().split(" ");
-            int a = word.length > 1 ? Integer.parseInt(word[1]) : 0;
-            int b = word.length > 2 ? Integer.parseInt(word[2]) : 0;
-            x.code(OPS.indexOf(word[0]), a, b);
-        }
-    }
-
-    private static int deploy(TenantHost x, int tenant, String text) {
-        add(x, text);
-        return x.deploy(tenant);
-    }
-
-    private static TenantHost host(int quantum, String... bundles) {
-        TenantHost x = new TenantHost(quantum);
-        for (int t = 0; t < bundles.length; t++) {
-            due("deploy " + bundles[t], deploy(x, t, bundles[t]), TenantHost.OK);
-        }
-        return x;
-    }
-
-    private static String tenant(TenantHost x, int t) {
-        StringBuilder all = new StringBuilder();
-        for (int what = 0; what < 7; what++) all.append(what == 0 ? "" : " ").append(x.tenant(t, what));
-        return all.toString();
-    }
-
-    private static String thread(TenantHost x, int k) {
-        StringBuilder all = new StringBuilder();
-        for (int what = 0; what < 5; what++) all.append(what == 0 ? "" : " ").append(x.thread(k, what));
-        return all.toString();
-    }
-
-    private static int turn(TenantHost x) {
-        int turn = -1;
-        for (int k = 0; k < 6; k++) if (x.thread(k, 4) == 1) turn = k;
-        return turn;
-    }
-
-    /** The end of function 0 of tenant 0, begun with an argument: its code and its result. */
-    private static String ends(TenantHost x, int argument) {
-        int k = x.start(0, 0, argument);
-        x.run(200);
-        return x.thread(k, 1) + " " + x.thread(k, 2);
-    }
-
-    private static String endsAlone(String text, int argument) {
-        return ends(host(16, text), argument);
+        finish("PromiseTests");
     }
 
     private static void promise1NewObject() {
@@ -437,12 +363,6 @@ public final class PromiseTests {
         due("6 no place of " + text, x.place(), -1);
     }
 
-    private static String pushes(int n) {
-        StringBuilder all = new StringBuilder("FUNC 1");
-        for (int i = 0; i < n; i++) all.append("; PUSH 1");
-        return all.toString();
-    }
-
     private static void promise6PlaceOfStack() {
         String[] table = {"DUP 1 2", "DROP 1 0", "SWAP 2 2", "ADD 2 1", "SUB 2 1", "MUL 2 1", "LESS 2 1",
             "SAME 2 1", "STORE 1 0", "CALL 1 1", "PRIV 1 1", "SEND 1 2", "SPAWN 1 1", "GUARD_1 1 0", "ALLOC 1 1",
@@ -756,7 +676,6 @@ public final class PromiseTests {
         value("PUSH 1; JUMP 4; DROP; YIELD", 1);
         value("PUSH 1; PUSH 0; ZERO 6; DROP; PUSH 2", 1);
         value("PUSH 1; PUSH 9; ZERO 6; DROP; PUSH 2", 2);
-        due("11 FUNC is a step", host(4, ECHO).run(1), 0);
         String calls = "FUNC 2; PUSH 9; STORE 1; PUSH 20; LOAD 0; CALL 1; SUB; LOAD 1; ADD; RETURN;"
             + " FUNC 4; LOAD 1; LOAD 3; ADD; LOAD 0; PUSH 6; STORE 0; PUSH 7; STORE 3; ADD; RETURN";
         due("11 CALL", endsAlone(calls, 4), "0 25");
