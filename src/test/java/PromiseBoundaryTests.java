@@ -254,47 +254,52 @@ public final class PromiseBoundaryTests extends HostTest {
         due("it is given", ends(x, 0), "0 0");
     }
 
-    /** A host whose tenants have six grants each, the k-th for path k alone, and functions that read. */
+    /** A host whose tenants have six grants, no two of which imply the same; function 0 reads path 0, 1 counts there. */
     private static TenantHost sixEach() {
-        TenantHost x = new TenantHost(16);
+        String text = "FUNC 1; GUARD 0 0; RETURN; FUNC 1; GUARD 3 0; RETURN;"
+            + " FUNC 1; GUARD 0 4; RETURN; FUNC 1; GUARD 3 4; RETURN";
+        TenantHost x = host(16, text, text, text, text);
         for (int t = 0; t < 4; t++) {
-            due("deploy", deploy(x, t, "FUNC 2; LOAD 0; ZERO 19; LOAD 0; PUSH 1; SAME; ZERO 10; GUARD 0 1; RETURN; YIELD;"
-                + " LOAD 0; PUSH 5; SAME; ZERO 17; GUARD 0 5; RETURN; YIELD; GUARD 0 4; RETURN; GUARD 0 0; RETURN"), 0);
-            for (int k = 0; k < 4; k++) x.grant(t, 1, k + 504);
+            x.grant(t, 1, 0 + 504);
+            x.grant(t, 8, 0 + 504);
+            x.grant(t, 2, ANYTHING);
             x.grant(t, 1, 0 + 8 * 0 + 448);
-            x.grant(t, 1, 0 + 8 * 1 + 448);
+            x.grant(t, 4, ANYTHING);
+            x.grant(t, 8, 0 + 8 * 0 + 448);
         }
         return x;
     }
 
-    private static String mayRead(TenantHost x, int t) {
+    /** The functions of a tenant of such a host that end well. */
+    private static String mayDo(TenantHost x, int t) {
         String may = "";
-        for (int path : new int[] {0, 1, 4, 5}) may += ends(x, t, 0, path).equals("0 0") ? " " + path : "";
-        return may.trim();
+        for (int f = 0; f < 4; f++) may += ends(x, t, f, 0).equals("0 0") ? f : "";
+        return may;
     }
 
     private static void moveUp() {
-        int[] withdrawn = {0, 1, 2, 3, 4, 5};
-        String[] left = {"1 4 5", "0 4 5", "0 1 4 5", "0 1 4 5", "0 1 5", "0 1 4"};
-        for (int k : withdrawn) {
-            TenantHost x = sixEach();
-            due("withdraw " + k, x.withdraw(1, k), true);
-            due("five", x.tenant(1, 6), 5);
-            due("left without " + k, mayRead(x, 1), left[k]);
-            due("the tenant before", x.tenant(0, 6) + ": " + mayRead(x, 0), "6: 0 1 4 5");
-            due("the tenant behind", x.tenant(2, 6) + ": " + mayRead(x, 2), "6: 0 1 4 5");
+        String[] left = {"123", "023", "0123", "013", "0123", "012"};
+        for (int k = 0; k < 6; k++) {
+            for (int t = 0; t < 4; t++) {
+                TenantHost x = sixEach();
+                due("withdraw " + k, x.withdraw(t, k), true);
+                for (int other = 0; other < 4; other++) {
+                    String want = other == t ? "5 " + left[k] : "6 0123";
+                    due("tenant " + other + " without " + k + " of " + t, x.tenant(other, 6) + " " + mayDo(x, other), want);
+                }
+            }
         }
         TenantHost x = sixEach();
         x.withdraw(3, 0);
         x.withdraw(3, 0);
-        due("the one that was 2 is 0, that was 4 is 2", x.withdraw(3, 2), true);
-        due("5 is left of those that are read", mayRead(x, 3), "5");
-        due("2 it is", x.withdraw(3, 2), true);
-        due("none is left of those", mayRead(x, 3), "");
-        due("two there are", x.tenant(3, 6), 2);
+        due("two are gone", mayDo(x, 3), "23");
+        due("the one that was 3 is 1", x.withdraw(3, 1), true);
+        due("and gone", mayDo(x, 3), "3");
+        due("the one that was 5 is 2", x.withdraw(3, 2), true);
+        due("and gone too", x.tenant(3, 6) + " " + mayDo(x, 3), "2 ");
         x = sixEach();
         for (int i = 5; i >= 0; i--) due("withdraw the last " + i, x.withdraw(0, i), true);
-        due("none left", x.tenant(0, 6) + mayRead(x, 0), "0");
+        due("none left", x.tenant(0, 6) + " " + mayDo(x, 0), "0 ");
     }
 
     private static void noGrant() {
@@ -376,6 +381,13 @@ public final class PromiseBoundaryTests extends HostTest {
         due("killed, but a frame is left", deploy(x, 1, ECHO), 3);
         x.run(100);
         due("killed and ended", deploy(x, 1, ECHO), 0);
+        for (int last = 0; last < 6; last++) {
+            x = host(16, LOOP, LOOP);
+            x.limits(0, 1000, 0, 6);
+            for (int k = 0; k < 6; k++) x.start(k == last ? 1 : 0, 0, 0);
+            due("a frame on thread " + last + " alone", deploy(x, 1, ECHO), 3);
+            due("it is one", x.tenant(1, 3), 1);
+        }
         x = host(16, "FUNC 1; LOAD 0; SEND 0; ADD; RETURN", "FUNC 1; LOAD 0; SPAWN 1; RETURN; FUNC 1; JUMP 5");
         x.capability(0, 0, 1, 0);
         x.start(0, 0, 0);
@@ -471,11 +483,13 @@ public final class PromiseBoundaryTests extends HostTest {
     private static void firstUnsound() {
         String[][] table = {
             {"FUNC 1", "0"}, {"FUNC 1; DROP; FUNC 1", "1"}, {"FUNC 1; FUNC 1; DROP", "0"}, {"FUNC 1; YIELD; YIELD", "2"},
-            {"FUNC 1; PUSH 1; JUMP 1", "1"}, {"FUNC 1; YIELD; PUSH 1; JUMP 2", "2"}, {"FUNC 1; PUSH 1; ZERO 4; DROP; YIELD", "3"},
+            {"FUNC 1; PUSH 1; JUMP 1", "1"}, {"FUNC 1; YIELD; PUSH 1; JUMP 2", "2"},
+            {"FUNC 1; PUSH 1; ZERO 4; DROP; YIELD", "3"},
             {"FUNC 1; JUMP 3; JUMP 2; DROP; JUMP 3", "3"}, {"FUNC 1; PUSH 1; PUSH 1; ZERO 1; RETURN", "1"},
             {"FUNC 1; PUSH 1; RETURN; FUNC 1; RETURN; FUNC 1; RETURN", "4"},
             {"FUNC 1; JUMP 5; YIELD; DROP; JUMP 2; PUSH 1; PUSH 1; PUSH 1; JUMP 2", "2"},
-            {"FUNC 1; JUMP 4; DROP; JUMP 3; JUMP 5; JUMP 2", "2"}, {"FUNC 1; JUMP 4; YIELD; JUMP 3; PUSH 1; ZERO 2; PUSH 1; JUMP 2", "2"}};
+            {"FUNC 1; JUMP 4; DROP; JUMP 3; JUMP 5; JUMP 2", "2"},
+            {"FUNC 1; JUMP 4; YIELD; JUMP 3; PUSH 1; ZERO 2; PUSH 1; JUMP 2", "2"}};
         for (String[] row : table) due(row[0], judged(row[0]), "2 at " + row[1]);
         for (int at = 1; at < 64; at++) {
             StringBuilder text = new StringBuilder("FUNC 1");
@@ -705,6 +719,15 @@ public final class PromiseBoundaryTests extends HostTest {
         x = host(16, text);
         ends(x, 0);
         due("one that lives keeps them", x.tenant(0, 1), 20);
+        for (int t = 0; t < 4; t++) {
+            x = host(16, text, text, text, text);
+            for (int k = 0; k < 4; k++) x.start(k, 0, 0);
+            x.run(16);
+            x.kill(t);
+            due("each holds some", x.tenant(0, 1) + x.tenant(1, 1) + x.tenant(2, 1) + x.tenant(3, 1), 80);
+            x.run(4);
+            for (int k = 0; k < 4; k++) due("tenant " + k + " when " + t + " is killed", x.tenant(k, 1), k == t ? 0 : 20);
+        }
     }
 
     private static void start() {
@@ -855,7 +878,7 @@ public final class PromiseBoundaryTests extends HostTest {
     }
 
     private static void threadAnswers() {
-        TenantHost x = host(16, "FUNC 1; LOAD 0; SEND 0; ADD; RETURN; FUNC 1; LOAD 0; THROW", "FUNC 1; LOAD 0; RETURN", LOOP, LOOP);
+        TenantHost x = host(16, "FUNC 1; LOAD 0; SEND 0; ADD; RETURN; FUNC 1; LOAD 0; THROW", ECHO, LOOP, LOOP);
         x.capability(0, 0, 1, 0);
         x.start(0, 0, 9);
         due("begun", thread(x, 0), "1 -1 0 1 1");
@@ -884,7 +907,9 @@ public final class PromiseBoundaryTests extends HostTest {
         x.run(9);
         for (int k : new int[] {-1, 6, 7, MIN, MAX}) due("number " + k, thread(x, k), "-1 -1 -1 -1 -1");
         for (int k = 2; k < 6; k++) due("never used " + k, thread(x, k), "-1 -1 -1 -1 -1");
-        for (int k = 0; k < 2; k++) for (int what : new int[] {-1, 5, 6, MIN, MAX}) due("what " + what, x.thread(k, what), -1);
+        for (int what : new int[] {-1, 5, 6, MIN, MAX}) {
+            for (int k = 0; k < 2; k++) due("what " + what, x.thread(k, what), -1);
+        }
         due("used and ended", thread(x, 0), "0 0 5 0 0");
         due("used", thread(x, 1), "1 -1 0 2 1");
         due("neither", x.thread(6, 5), -1);
@@ -901,8 +926,8 @@ public final class PromiseBoundaryTests extends HostTest {
     }
 
     private static void noteNumbers() {
-        TenantHost x = host(16, "FUNC 1; GUARD 3 20; DROP; GUARD 3 21; DROP; GUARD 3 22; DROP; GUARD 3 23; DROP; GUARD 3 24; DROP; GUARD 3 25;"
-            + " DROP; GUARD 3 26; DROP; GUARD 3 27; DROP; GUARD 3 28; DROP; GUARD 3 29; RETURN");
+        TenantHost x = host(16, "FUNC 1; GUARD 3 20; DROP; GUARD 3 21; DROP; GUARD 3 22; DROP; GUARD 3 23; DROP;"
+            + " GUARD 3 24; DROP; GUARD 3 25; DROP; GUARD 3 26; DROP; GUARD 3 27; DROP; GUARD 3 28; DROP; GUARD 3 29; RETURN");
         x.grant(0, 8, ANYTHING);
         x.start(0, 0, 0);
         x.run(1);

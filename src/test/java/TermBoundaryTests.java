@@ -187,7 +187,8 @@ public final class TermBoundaryTests extends HostTest {
             }
         }
         for (int action : OUTSIDE_0_TO_3) due("action " + action, judged("FUNC 1; GUARD " + action + " 9; RETURN"), "1 at 1");
-        TenantHost x = host(16, "FUNC 1; PUSH 6; GUARD 1 1; GUARD 0 1; PUSH 8; GUARD 1 4; GUARD 3 0; GUARD 2 1; ADD; ADD; RETURN");
+        TenantHost x = host(16, "FUNC 1; PUSH 6; GUARD 1 1; GUARD 0 1; PUSH 8; GUARD 1 4; GUARD 3 0; GUARD 2 1; ADD; ADD;"
+            + " RETURN");
         x.grant(0, 15, ANYTHING);
         due("read 6, counted 1, deleted 6", ends(x, 0), "0 13");
         due("deleted", x.resource(1), 0);
@@ -540,7 +541,9 @@ public final class TermBoundaryTests extends HostTest {
                 for (int f = 1; f < n; f++) rest.append("; FUNC 1; PUSH 1; RETURN");
                 String before = "FUNC 1; LOAD 0; " + op + " ";
                 for (int a = 0; a < n; a++) due(op + " " + a + " of " + n, judged(before + a + rest), OK);
-                for (int a : new int[] {-1, n, n + 1, MIN, MAX}) due(op + " " + a + " of " + n, judged(before + a + rest), "1 at 2");
+                for (int a : new int[] {-1, n, n + 1, MIN, MAX}) {
+                    due(op + " " + a + " of " + n, judged(before + a + rest), "1 at 2");
+                }
             }
             TenantHost x = host(4, "FUNC 1; JUMP 1; FUNC 1; JUMP 3");
             due(op + " of what an older bundle had", deploy(x, 0, "FUNC 1; LOAD 0; " + op + " 1; RETURN"), 1);
@@ -567,6 +570,7 @@ public final class TermBoundaryTests extends HostTest {
         due("none in the first", judged("FUNC 1; RETURN"), "2 at 1");
         due("one that nothing calls", judged("FUNC 1; PUSH 1; RETURN; FUNC 1; DROP; JUMP 4"), "2 at 4");
         due("eight in each", judged(pushes(8) + "; RETURN; " + pushes(8) + "; RETURN"), OK);
+        due("a later one at the end", judged("FUNC 1; PUSH 1; RETURN; FUNC 1"), "2 at 3");
     }
 
     /** What each instruction pops and pushes, beside those that nothing may follow. */
@@ -613,6 +617,46 @@ public final class TermBoundaryTests extends HostTest {
         TenantHost x = host(16, pushes(8) + "; ADD; ADD; ADD; ADD; ADD; ADD; ADD; RETURN");
         due("eight values are held", ends(x, 0), "0 8");
         due("a loop that grows", judged("FUNC 1; PUSH 1; JUMP 1"), "2 at 1");
+        fullest();
+    }
+
+    /** Each instruction with as many values as it may have: those that it does not take stay as they are. */
+    private static void fullest() {
+        String[] rows = {"PUSH_9 0 9", "DUP 1 64 64", "DROP 1", "SWAP 2 128 64", "ADD 2 192", "SUB 2 -64", "MUL 2 8192",
+            "LESS 2 1", "SAME 2 0", "LOAD_0 0 500", "STORE_0 1", "ZERO_NEXT 1", "CALL_1 1 128", "PRIV_1 1 128",
+            "SEND_0 1 64 0", "SEND_1 1 0 5", "SEND_2 1 0 4", "SEND_3 1 0 3", "SPAWN_1 1 1", "GUARD_0_9 0 0", "GUARD_1_9 1",
+            "GUARD_2_9 0 0", "GUARD_3_9 0 0", "ALLOC 1 1", "FREE 1", "YIELD 0"};
+        for (String row : rows) {
+            String[] word = row.split(" ");
+            int pops = Integer.parseInt(word[1]);
+            int pushed = word.length - 2;
+            int h = pushed > pops ? 8 - (pushed - pops) : 8;
+            StringBuilder text = new StringBuilder("FUNC 1");
+            for (int i = 0; i < h; i++) text.append("; PUSH ").append(1 << i);
+            text.append("; ").append(spelled(row, h + 1));
+            int[] values = new int[8];
+            int left = h - pops;
+            for (int i = 0; i < left; i++) values[i] = 1 << i;
+            for (int i = 0; i < pushed; i++) values[left + i] = Integer.parseInt(word[2 + i]);
+            // what is left is taken from each other from the top down, so that each value and its place counts
+            int want = values[left + pushed - 1];
+            for (int i = left + pushed - 2; i >= 0; i--) {
+                text.append("; SUB");
+                want = values[i] - want;
+            }
+            due(row + " at height " + h, ends(fullHost(text + "; RETURN; FUNC 1; LOAD 0; RETURN"), 500), "0 " + want);
+        }
+    }
+
+    private static TenantHost fullHost(String text) {
+        TenantHost x = host(16, text, ECHO);
+        x.grant(0, 15, ANYTHING);
+        x.limits(0, 1000, 1000, 3);
+        x.capability(0, 0, 1, 0);
+        x.capability(0, 2, 1, 0);
+        x.revoke(0, 2);
+        x.capability(0, 3, 1, 3);
+        return x;
     }
 
     private static void whatFollows() {
@@ -636,7 +680,8 @@ public final class TermBoundaryTests extends HostTest {
         due("by a jump back", judged("FUNC 1; YIELD; PUSH 1; JUMP 1"), "2 at 1");
         due("by two jumps", judged("FUNC 1; PUSH 1; ZERO 5; PUSH 1; JUMP 5; JUMP 5"), "2 at 5");
         due("the same by two ways", judged("FUNC 1; PUSH 1; ZERO 4; YIELD; JUMP 4"), OK);
-        due("heights 0 and 8", judged("FUNC 1; JUMP 3; YIELD; PUSH 1; PUSH 1; PUSH 1; PUSH 1; PUSH 1; PUSH 1; PUSH 1; PUSH 1; JUMP 3"), "2 at 3");
+        due("heights 0 and 8", judged("FUNC 1; JUMP 3; YIELD; PUSH 1; PUSH 1; PUSH 1; PUSH 1; PUSH 1; PUSH 1; PUSH 1;"
+            + " PUSH 1; JUMP 3"), "2 at 3");
         due("found from behind", judged("FUNC 1; JUMP 4; YIELD; JUMP 2; PUSH 1; PUSH 1; PUSH 1; ZERO 2; DROP; JUMP 2"), "2 at 2");
         due("of ten, the ninth does not fit", judged("FUNC 1; JUMP 3; JUMP 5; PUSH 1; JUMP 3; DROP"), "2 at 3");
         due("at a place that fits both", judged("FUNC 1; PUSH 1; PUSH 1; ZERO 5; PUSH 1; RETURN"), "2 at 5");
@@ -645,6 +690,8 @@ public final class TermBoundaryTests extends HostTest {
     private static void runningOut() {
         due("FUNC at the end", judged("FUNC 1"), "2 at 0");
         due("FUNC before FUNC", judged("FUNC 1; FUNC 1; JUMP 2"), "2 at 0");
+        due("a later FUNC at the end", judged("FUNC 1; JUMP 1; FUNC 1; JUMP 3; FUNC 1"), "2 at 4");
+        due("a later FUNC before FUNC", judged("FUNC 1; JUMP 1; FUNC 1; FUNC 1; JUMP 4"), "2 at 2");
         String[] plain = {"PUSH 1", "DUP", "DROP", "SWAP", "ADD", "LOAD 0", "STORE 0", "ZERO 1", "CALL 0", "PRIV 0", "SEND 0",
             "SPAWN 0", "GUARD 0 0", "GUARD 1 0", "ALLOC", "FREE", "YIELD"};
         for (String last : plain) {
@@ -681,6 +728,38 @@ public final class TermBoundaryTests extends HostTest {
         x.run(200);
         due("values and locals are each frame's own", thread(x, 0) + ", " + thread(x, 1) + ", " + thread(x, 2),
             "0 0 114 0 0, 0 0 1 0 0, 0 0 214 0 0");
+        allFramesInUse();
+    }
+
+    /** Calls itself five times with four locals and seven values in each frame; what it returns depends on them all. */
+    private static final String WIDE = "FUNC 4; LOAD 1; LOAD 2; ADD; LOAD 3; ADD; LOAD 0; PUSH 1; SUB; STORE 2; LOAD 0; PUSH 3;"
+        + " MUL; STORE 1; LOAD 0; PUSH 5; MUL; STORE 3; PUSH 1; PUSH 2; PUSH 4; PUSH 8; PUSH 16; PUSH 32; LOAD 0; ZERO 29;"
+        + " LOAD 2; CALL 0; JUMP 30; PUSH 7; SUB; SUB; SUB; SUB; SUB; SUB; SUB; LOAD 0; ADD; LOAD 1; ADD; LOAD 2; ADD;"
+        + " LOAD 3; ADD; RETURN";
+
+    private static int wideResult() {
+        int result = 7;
+        for (int n = 0; n <= 5; n++) {
+            for (int value = 32; value > 0; value /= 2) result = value - result;
+            result = 0 - result + n + 3 * n + (n - 1) + 5 * n;
+        }
+        return result;
+    }
+
+    /** All frames of all threads in use at once, the threads in turns of one step, each at another place. */
+    private static void allFramesInUse() {
+        TenantHost x = host(1, WIDE, WIDE);
+        int most = 0;
+        for (int k = 0; k < 6; k++) {
+            due("begin " + k, x.start(k % 2, 0, 5), k);
+            x.run(7);
+        }
+        for (int i = 0; i < 90; i++) {
+            x.run(20);
+            most = Math.max(most, x.tenant(0, 3) + x.tenant(1, 3));
+        }
+        due("frames at once", most, 36);
+        for (int k = 0; k < 6; k++) due("end of " + k, thread(x, k), "0 0 " + wideResult() + " 0 0");
     }
 
     private static void inheritsNone() {
@@ -741,7 +820,8 @@ public final class TermBoundaryTests extends HostTest {
 
     private static void inheritsDomains() {
         // 0 sends to 1; 1 spawns from a plain or a privileged frame; the new thread spawns again
-        String spawner = "FUNC 1; LOAD 0; HOW 1; RETURN; FUNC 1; LOAD 0; SPAWN 2; RETURN; FUNC 1; LOAD 0; SPAWN 3; RETURN; FUNC 1; JUMP 13";
+        String spawner = "FUNC 1; LOAD 0; HOW 1; RETURN; FUNC 1; LOAD 0; SPAWN 2; RETURN;"
+            + " FUNC 1; LOAD 0; SPAWN 3; RETURN; FUNC 1; JUMP 13";
         for (String how : new String[] {"CALL", "PRIV"}) {
             TenantHost x = host(16, "FUNC 1; LOAD 0; SEND 0; ADD; RETURN", spawner.replace("HOW", how));
             x.capability(0, 0, 1, 0);
@@ -787,17 +867,24 @@ public final class TermBoundaryTests extends HostTest {
         due("not executed, not noted", x.audit(2), -1);
     }
 
-    /** Starts tenant 0, kills it before the instruction that stands behind the body and lets it go on. */
+    /** What each tenant answers if it is killed before the instruction that stands behind the body. */
     private static String killedBefore(String body, String last, int steps) {
-        TenantHost x = host(16, "FUNC 1; " + body + "; " + last);
-        x.grant(0, 15, ANYTHING);
-        x.capability(0, 0, 1, 0);
-        x.start(0, 0, 0);
+        String first = killedBefore(0, body, last, steps);
+        for (int t = 1; t < 4; t++) due("tenant " + t + " as tenant 0", killedBefore(t, body, last, steps), first);
+        return first;
+    }
+
+    private static String killedBefore(int t, String body, String last, int steps) {
+        TenantHost x = new TenantHost(16);
+        due("deploy", deploy(x, t, "FUNC 1; " + body + "; " + last), 0);
+        x.grant(t, 15, ANYTHING);
+        x.capability(t, 0, 3 - t, 0);
+        x.start(t, 0, 0);
         x.run(steps);
-        int ticks = x.tenant(0, 0);
-        due("killed", x.kill(0), true);
+        int ticks = x.tenant(t, 0);
+        due("killed", x.kill(t), true);
         due("a step", x.run(1), 1);
-        return x.thread(0, 1) + " " + (x.tenant(0, 0) - ticks);
+        return x.thread(0, 1) + " " + (x.tenant(t, 0) - ticks);
     }
 
     private static void killedAtPolls() {
@@ -815,7 +902,8 @@ public final class TermBoundaryTests extends HostTest {
         due("RETURN", killedBefore("PUSH 1", "RETURN", 2), "0 1");
         due("THROW", killedBefore("PUSH 1", "THROW", 2), "11 1");
         // only the top frame's tenant counts, and the killed one below goes on to its next poll
-        x = host(16, "FUNC 1; LOAD 0; SEND 0; ADD; LOAD 0; CALL 0; RETURN", "FUNC 1; LOAD 0; CALL 1; RETURN; FUNC 1; PUSH 6; RETURN");
+        x = host(16, "FUNC 1; LOAD 0; SEND 0; ADD; LOAD 0; CALL 0; RETURN",
+            "FUNC 1; LOAD 0; CALL 1; RETURN; FUNC 1; PUSH 6; RETURN");
         x.capability(0, 0, 1, 0);
         x.start(0, 0, 0);
         x.run(3);
@@ -1073,6 +1161,28 @@ public final class TermBoundaryTests extends HostTest {
         x = host(16, "FUNC 1; LOAD 0; CALL 1; RETURN; FUNC 1; LOAD 0; SEND 0; ADD; THROW", thrower);
         x.capability(0, 0, 1, 0);
         due("a second exception finds no SEND", ends(x, 2), "22 0");
+        x = host(16, "FUNC 1; PUSH 7; PUSH 4; LOAD 0; SEND 0; DROP; SUB; MUL; RETURN", thrower);
+        x.capability(0, 0, 1, 0);
+        due("the result 0 stands between the values and the code", ends(x, 2), "0 28");
+        x = host(16, pushes(6) + "; LOAD 0; SEND 0; ADD; ADD; ADD; ADD; ADD; ADD; ADD; RETURN", thrower);
+        x.capability(0, 0, 1, 0);
+        due("eight values then", ends(x, 2), "0 18");
+        exceptionsOnAllThreads();
+    }
+
+    private static void exceptionsOnAllThreads() {
+        TenantHost x = host(1, "FUNC 1; PUSH 9; LOAD 0; CALL 1; SUB; RETURN; FUNC 1; LOAD 0; SEND 0; PUSH 100; MUL; ADD;"
+            + " RETURN",
+            "FUNC 1; LOAD 0; CALL 1; RETURN; FUNC 1; LOAD 0; THROW");
+        x.limits(0, 1000, 0, 6);
+        x.limits(1, 1000, 0, 6);
+        x.capability(0, 0, 1, 0);
+        for (int k = 0; k < 6; k++) due("thread " + k, x.start(0, 0, k), k);
+        x.run(200);
+        for (int k = 0; k < 6; k++) due("thread " + k + " goes on", thread(x, k), "0 0 " + (9 - 100 * (10 + k)) + " 0 0");
+        for (int k = 0; k < 6; k++) due("thread " + k, x.start(1, 0, k), k);
+        x.run(200);
+        for (int k = 0; k < 6; k++) due("thread " + k + " ends", thread(x, k), "0 " + (10 + k) + " 0 0 0");
     }
 
     private static void exceptionEnds() {
