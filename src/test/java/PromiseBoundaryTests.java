@@ -17,6 +17,7 @@ public final class PromiseBoundaryTests extends HostTest {
     }
 
     private static void newObject() {
+        sentence("An object is used for at most 512 calls after it has been made", PromiseBoundaryTests::allCalls);
         sentence("quantum: QUANTUM, below 1 becomes 1, above 16 becomes 16", PromiseBoundaryTests::quantum);
         sentence("All tenants without bundle, grants, capabilities", PromiseBoundaryTests::newTenants);
         sentence("limits 1000 ticks, 100 units, 3 threads", PromiseBoundaryTests::firstLimits);
@@ -126,6 +127,20 @@ public final class PromiseBoundaryTests extends HostTest {
         other.start(3, 0, 0);
         due("run again behind " + call, x.run(200), other.run(200));
         due("state at last behind " + call, state(x), state(other));
+    }
+
+    private static void allCalls() {
+        TenantHost x = host(16, "FUNC 1; LOAD 0; PUSH 1; ADD; STORE 0; LOAD 0; GUARD 1 83; PUSH 1; ALLOC; DROP; JUMP 1");
+        x.grant(0, 3, ANYTHING);
+        x.limits(0, 1000000, 1000000, 1);
+        x.start(0, 0, 0);
+        // 12 calls deployed it, 3 are made here, 3 are left for the end
+        for (int call = 16; call <= 509; call++) due("call " + call, x.run(200), 200);
+        int steps = 494 * 200;
+        due("ticks", x.tenant(0, 0), steps);
+        // behind FUNC there are rounds of ten steps; the last of them lacks its JUMP
+        due("units", x.tenant(0, 1), steps / 10);
+        due("the 512th call", x.resource(83), steps / 10);
     }
 
     private static void quantum() {

@@ -417,7 +417,8 @@ public final class TermBoundaryTests extends HostTest {
         int[][] behind = {{0, 0, 0}, {0, 4, 1}, {0, 7, 1}, {0, 8, 0}, {0, 20, 1}, {0, 35, 1}, {0, 36, 0}, {0, 1, 0},
             {3, 16, 1}, {3, 15, 0}, {3, 19, 1}, {3, 68, 1}, {3, 67, 0}, {3, 83, 1}, {3, 3, 0}, {4, 20, 1}, {4, 23, 1},
             {4, 24, 0}, {4, 4, 0}, {4, 0, 0}, {4, 5, 0}, {19, 80, 1}, {19, 79, 0}, {19, 83, 1}, {20, 20, 0}, {20, 4, 0},
-            {83, 83, 0}, {83, 19, 0}, {83, 3, 0}, {5, 24, 1}, {5, 27, 1}, {5, 28, 0}, {5, 23, 0}};
+            {83, 83, 0}, {83, 19, 0}, {83, 3, 0}, {5, 24, 1}, {5, 27, 1}, {5, 28, 0}, {5, 23, 0}, {1, 0, 0}, {1, 2, 0},
+            {1, 7, 0}, {1, 8, 1}, {1, 11, 1}, {1, 12, 0}, {1, 35, 0}, {1, 36, 1}, {1, 51, 1}, {1, 52, 0}};
         for (int[] row : behind) due("of " + row[1] + " behind " + row[0], counts(row[0], row[1]), "0 " + row[2]);
         StringBuilder one = new StringBuilder("FUNC 1");
         for (int path = 0; path < 28; path++) one.append("; PUSH -1; GUARD 1 ").append(path);
@@ -685,6 +686,19 @@ public final class TermBoundaryTests extends HostTest {
         due("found from behind", judged("FUNC 1; JUMP 4; YIELD; JUMP 2; PUSH 1; PUSH 1; PUSH 1; ZERO 2; DROP; JUMP 2"), "2 at 2");
         due("of ten, the ninth does not fit", judged("FUNC 1; JUMP 3; JUMP 5; PUSH 1; JUMP 3; DROP"), "2 at 3");
         due("at a place that fits both", judged("FUNC 1; PUSH 1; PUSH 1; ZERO 5; PUSH 1; RETURN"), "2 at 5");
+        due("after many rounds", judged(manyRounds(7)), "2 at 2");
+        due("after more than all rounds", judged(manyRounds(8)), "2 at 4");
+    }
+
+    /**
+     * A loop that gets higher by one in each round, which leads through forty jumps back. Only the height that is left
+     * after so many DROPs leads from it to the DROP at 2, where it does not fit.
+     */
+    private static String manyRounds(int drops) {
+        StringBuilder text = new StringBuilder("FUNC 1; JUMP 4; DROP; JUMP 3; PUSH 1; LOAD 0; ZERO 49; JUMP 48; JUMP 4");
+        for (int i = 9; i < 49; i++) text.append("; JUMP ").append(i - 1);
+        for (int i = 0; i < drops; i++) text.append("; DROP");
+        return text + "; JUMP 2";
     }
 
     private static void runningOut() {
@@ -1213,7 +1227,8 @@ public final class TermBoundaryTests extends HostTest {
         due("a RETURN of another frame", thread(x, 0), "1 -1 0 1 1");
         x.run(3);
         due("then the last", thread(x, 0), "0 0 6 0 0");
-        due("other values are gone", endsAlone(pushes(7) + "; PUSH 9; RETURN", 0), "0 9");
+        x = host(16, pushes(7) + "; PUSH 9; RETURN");
+        for (int i = 0; i < 3; i++) due("other values are gone", ends(x, 0), "0 9");
     }
 
     private static void answersStay() {
